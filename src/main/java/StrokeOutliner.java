@@ -590,8 +590,10 @@ public final class StrokeOutliner {
         /** Returns how many points there are. */
         int move(int quarters, int dx, int dy) {
             int moved = 0;
-            for (int subpath = 0; subpath < subpathCount(); subpath++) {
-                for (int point = 0; point < pointCount(subpath); point++) {
+            int subpaths = subpathCount();
+            for (int subpath = 0; subpath < subpaths; subpath++) {
+                int points = pointCount(subpath);
+                for (int point = 0; point < points; point++) {
                     int x = turnedX(xOf(subpath, point), yOf(subpath, point), quarters);
                     int y = turnedY(xOf(subpath, point), yOf(subpath, point), quarters);
                     putPoint(subpath, point, x + dx, y + dy);
@@ -917,8 +919,8 @@ public final class StrokeOutliner {
         /** The distance along the subpath at which the segment begins. */
         int startOf(int subpath, int segment) {
             int passed = 0;
-            for (int s = firstOf(subpath); s < segment; s++) {
-                passed += size(s);
+            for (int s = Numbers.at(first, subpath); s < segment; s++) {
+                passed += Numbers.at(length, s);
             }
             return passed;
         }
@@ -937,12 +939,12 @@ public final class StrokeOutliner {
 
         int xAt(int segment, int distance) {
             long step = (long) UNIT * Numbers.at(dx, segment) * distance;
-            return Numbers.at(x, segment) + Numbers.round(step, size(segment));
+            return Numbers.at(x, segment) + Numbers.round(step, Numbers.at(length, segment));
         }
 
         int yAt(int segment, int distance) {
             long step = (long) UNIT * Numbers.at(dy, segment) * distance;
-            return Numbers.at(y, segment) + Numbers.round(step, size(segment));
+            return Numbers.at(y, segment) + Numbers.round(step, Numbers.at(length, segment));
         }
 
         int normalX(int segment) {
@@ -977,18 +979,29 @@ public final class StrokeOutliner {
         /** The greatest phase passes at most so many of the shortest lengths. */
         private static final int MAX_PASSED = 600 / 5;
 
+        private final int[] lengths = new int[MAX_DASHES];
+        private int dashes;
+        private int phase;
         /** Counted through all repetitions: so an odd pattern, too, is on in the even parts. */
         private int part;
         private int left;
 
-        void seek(Drawing drawing) {
+        void take(Drawing drawing) {
+            dashes = Math.min(drawing.cell(Drawing.DASHES), MAX_DASHES);
+            for (int dash = 0; dash < dashes; dash++) {
+                lengths[dash] = UNIT * drawing.cell(Drawing.FIRST_DASH + dash);
+            }
+            phase = UNIT * drawing.cell(Drawing.PHASE);
+        }
+
+        void goToPhase() {
+            int ahead = phase;
             part = 0;
-            left = lengthOf(drawing, 0);
-            int ahead = UNIT * drawing.cell(Drawing.PHASE);
+            left = lengthOf(0);
             for (int passed = 0; passed < MAX_PASSED && ahead >= left; passed++) {
                 ahead -= left;
                 part++;
-                left = lengthOf(drawing, part);
+                left = lengthOf(part);
             }
             left -= ahead;
         }
@@ -1003,19 +1016,18 @@ public final class StrokeOutliner {
         }
 
         /** Returns whether a new part begins. */
-        boolean pass(Drawing drawing, int step) {
+        boolean pass(int step) {
             left -= step;
             if (left > 0) {
                 return false;
             }
             part++;
-            left = lengthOf(drawing, part);
+            left = lengthOf(part);
             return true;
         }
 
-        private static int lengthOf(Drawing drawing, int part) {
-            int dashes = drawing.cell(Drawing.DASHES);
-            return dashes > 0 ? UNIT * drawing.cell(Drawing.FIRST_DASH + part % dashes) : ENDLESS;
+        private int lengthOf(int number) {
+            return dashes > 0 && number >= 0 ? lengths[number % dashes] : ENDLESS;
         }
     }
 
@@ -1042,12 +1054,13 @@ public final class StrokeOutliner {
         void walk(Drawing drawing, Segments segments) {
             runs = 0;
             spans = 0;
+            cursor.take(drawing);
             for (int subpath = 0; subpath < MAX_SUBPATHS; subpath++) {
                 first[subpath] = runs;
                 if (subpath == 0 || drawing.cell(Drawing.CONTINUES) == 0) {
-                    cursor.seek(drawing);
+                    cursor.goToPhase();
                 }
-                walkSubpath(drawing, segments, subpath);
+                walkSubpath(segments, subpath);
                 if (drawing.isClosed(subpath)) {
                     joinEnds(subpath, segments.lengthOf(subpath));
                 }
@@ -1055,7 +1068,7 @@ public final class StrokeOutliner {
             first[MAX_SUBPATHS] = runs;
         }
 
-        private void walkSubpath(Drawing drawing, Segments segments, int subpath) {
+        private void walkSubpath(Segments segments, int subpath) {
             boolean running = false;
             int passed = 0;
             for (int segment = segments.firstOf(subpath); segment < segments.endOf(subpath); segment++) {
@@ -1070,7 +1083,7 @@ public final class StrokeOutliner {
                         addSpan(segment, at, at + step);
                         running = true;
                     }
-                    if (cursor.pass(drawing, step)) {
+                    if (cursor.pass(step)) {
                         running = false;
                     }
                 }
@@ -1312,9 +1325,12 @@ public final class StrokeOutliner {
                 long dy = y - cornerY(piece, 0);
                 return dx * dx + dy * dy <= (long) radius * radius;
             }
+            return isOnOneSide(piece, x, y) && isInBox(piece, x, y);
+        }
+
+        private boolean isInBox(int piece, int x, int y) {
             return x >= edgeOf(piece, LEFT) && x <= edgeOf(piece, RIGHT)
-                    && y >= edgeOf(piece, SMALLEST_Y) && y <= edgeOf(piece, GREATEST_Y)
-                    && isOnOneSide(piece, x, y);
+                    && y >= edgeOf(piece, SMALLEST_Y) && y <= edgeOf(piece, GREATEST_Y);
         }
 
         private boolean isOnOneSide(int piece, int x, int y) {
@@ -1328,8 +1344,11 @@ public final class StrokeOutliner {
                 long cross = edgeX * (y - cornerY(piece, corner)) - edgeY * (x - cornerX(piece, corner));
                 someAbove = someAbove || cross > 0;
                 someBelow = someBelow || cross < 0;
+                if (someAbove && someBelow) {
+                    return false;
+                }
             }
-            return !(someAbove && someBelow);
+            return true;
         }
     }
 
@@ -1499,22 +1518,27 @@ public final class StrokeOutliner {
             int y = segments.yAt(one, runs.toOf(span));
             if (join == ROUND_JOIN) {
                 addDisc(x, y);
-            } else if (cross != 0) {
-                int side = cross > 0 ? -1 : 1;
-                boolean miter = join == MITER_JOIN && isInLimit(dot, segments.dot(one, one) * segments.dot(two, two));
-                pieces.start(miter ? Pieces.MITER : Pieces.BEVEL);
-                pieces.addCorner(x, y);
-                pieces.addCorner(x + side * segments.normalX(one), y + side * segments.normalY(one));
-                if (miter) {
-                    addTip(one, two, x, y, side);
-                }
-                pieces.addCorner(x + side * segments.normalX(two), y + side * segments.normalY(two));
             }
+            if (join == ROUND_JOIN || cross == 0) {
+                return;
+            }
+            // the outer side of the corner: with the normals, or against them
+            int side = cross > 0 ? -1 : 1;
+            int oneX = segments.normalX(one);
+            int oneY = segments.normalY(one);
+            int twoX = segments.normalX(two);
+            int twoY = segments.normalY(two);
+            boolean miter = join == MITER_JOIN && isInLimit(dot, segments.dot(one, one) * segments.dot(two, two));
+            pieces.start(miter ? Pieces.MITER : Pieces.BEVEL);
+            pieces.addCorner(x, y);
+            pieces.addCorner(x + side * oneX, y + side * oneY);
+            if (miter) {
+                addTip(x, y, side, oneX + twoX, oneY + twoY);
+            }
+            pieces.addCorner(x + side * twoX, y + side * twoY);
         }
 
-        private void addTip(int one, int two, int x, int y, int side) {
-            long kx = segments.normalX(one) + segments.normalX(two);
-            long ky = segments.normalY(one) + segments.normalY(two);
+        private void addTip(int x, int y, int side, long kx, long ky) {
             long square = kx * kx + ky * ky;
             long scale = 2L * half * half;
             int tipX = side * Numbers.round(scale * kx, square);

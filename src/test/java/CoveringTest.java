@@ -4,6 +4,7 @@ public final class CoveringTest {
         strips();
         joinsAndCaps();
         flatPieces();
+        hardly();
         dashes();
         covered();
         nearest();
@@ -63,6 +64,35 @@ public final class CoveringTest {
         Check.equal("the strips and the bevel", o.covering(6400, 32), 3);
         Check.equal("on the bevel's line, beyond it", o.covering(6400, 33), 0);
         Check.equal("on the bevel's line, far beyond it", o.covering(6400, -9000), 0);
+        StrokeOutliner upwards = Drawn.path("M0,0L0,100L1,-100");
+        upwards.setStyle(1, 2, 4, 0);
+        Check.equal("the other flat bevel", Drawn.piece(upwards, 1), "2:0,6400 -32,6400 32,6400");
+        Check.equal("the strips and the other bevel", upwards.covering(-32, 6400), 3);
+        Check.equal("left of the other bevel", upwards.covering(-33, 6400), 0);
+        Check.equal("right of the other bevel", upwards.covering(33, 6400), 0);
+    }
+
+    /** One unit beside the edge, or inside of it, where the edges go round the other way than those of a strip. */
+    private static void hardly() {
+        StrokeOutliner cap = Drawn.path("M0,0L3,4");
+        cap.setStyle(4, 0, 4, 2);
+        Check.equal("the first cap", Drawn.piece(cap, 1), "4:-102,77 -179,-25 25,-179 102,-77");
+        Check.equal("the cross product is -1", cap.covering(-139, 28), 0);
+        Check.equal("the cross product is 1", cap.covering(-142, 24), 1);
+        Check.equal("its corner", cap.covering(-179, -25), 1);
+        Check.equal("left of its corner", cap.covering(-180, -25), 0);
+        Check.equal("its other corner", cap.covering(25, -179), 1);
+        Check.equal("below its other corner", cap.covering(25, -180), 0);
+        StrokeOutliner disc = Drawn.path("M0,0");
+        disc.setStyle(40, 0, 4, 1);
+        int[][] due = {{1280, 0, 1}, {1280, 1, 0}, {1281, 0, 0}, {-1280, 0, 1}, {-1280, -1, 0}, {0, 1280, 1},
+            {0, -1281, 0}, {768, 1024, 1}, {768, 1025, 0}, {-769, 1024, 0}, {768, -1024, 1}, {-20000, 20000, 0}};
+        for (int[] d : due) {
+            Check.equal("the disc at " + d[0] + ", " + d[1], disc.covering(d[0], d[1]), d[2]);
+        }
+        StrokeOutliner widest = Drawn.path("M-100,-100L100,100L-100,-99L100,99");
+        widest.setStyle(40, 0, 10, 2);
+        Check.equal("far off", widest.covering(20000, -20000) + widest.covering(-20000, 20000), 0);
     }
 
     private static void dashes() {
@@ -98,12 +128,37 @@ public final class CoveringTest {
         Check.equal("nothing is left of the last answer", disc.covered(-10, -10, 20, 20), 1);
         Check.equal("in the last row and column", disc.covered(-20, -20, 20, 20), 1);
         Check.equal("in the first row and column", disc.covered(0, 0, 20, 20), 1);
+        rectangles();
         int[][] wrong = {{101, 0, 0, 0}, {-101, 0, 0, 0}, {0, 101, 0, 0}, {0, -101, 0, 0}, {0, 0, -1, 0},
             {0, 0, 21, 0}, {0, 0, 0, -1}, {0, 0, 0, 21}};
         for (int[] w : wrong) {
             Check.argument("a wrong rectangle", () -> o.covered(w[0], w[1], w[2], w[3]));
         }
         Check.equal("covered of nothing", new StrokeOutliner().covered(-100, 100, 20, 20), 0);
+    }
+
+    /** A stroke from (60, 70), 10 long and 4 wide, and its mirror images: x + width and y + height count. */
+    private static void rectangles() {
+        for (int sx = -1; sx <= 1; sx += 2) {
+            for (int sy = -1; sy <= 1; sy += 2) {
+                StrokeOutliner o = new StrokeOutliner();
+                o.moveTo(60 * sx, 70 * sy);
+                o.lineTo(70 * sx, 70 * sy);
+                int left = sx > 0 ? 60 : -70;
+                int low = 70 * sy - 2;
+                String what = "a stroke at " + left + ", " + low;
+                Check.equal(what + ", all of it", o.covered(left - 5, low - 8, 20, 20), 11 * 5);
+                Check.equal(what + ", just all of it", o.covered(left, low, 10, 4), 11 * 5);
+                Check.equal(what + ", without an end", o.covered(left + 1, low, 9, 4), 10 * 5);
+                Check.equal(what + ", without the other end", o.covered(left, low, 9, 4), 10 * 5);
+                Check.equal(what + ", without a side", o.covered(left, low + 1, 10, 3), 11 * 4);
+                Check.equal(what + ", without the other side", o.covered(left, low, 10, 3), 11 * 4);
+                Check.equal(what + ", one corner", o.covered(left - 20, low - 20, 20, 20), 1);
+                Check.equal(what + ", the other corner", o.covered(left + 10, low + 4, 20, 20), 1);
+                Check.equal(what + ", left of it", o.covered(left - 21, low, 20, 20), 0);
+                Check.equal(what + ", above it", o.covered(left, low + 5, 20, 20), 0);
+            }
+        }
     }
 
     private static void nearest() {

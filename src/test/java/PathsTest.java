@@ -3,20 +3,26 @@ public final class PathsTest {
     private static final String ARGUMENT = "IllegalArgumentException";
     private static final String STATE = "IllegalStateException";
     private static final String INDEX = "IndexOutOfBoundsException";
+    private static final String LONGEST = "M-100,-100" + "L100,100L-100,-100".repeat(3) + "L100,100Z";
 
     public static void main(String[] args) {
         newObject();
         moveTo();
+        freshSubpath();
         lineTo();
+        full();
         close();
         remove();
         reverse();
         simplify();
         simplifyClosed();
+        simplifyAll();
         transform();
         subpath();
+        lengths();
         point();
         pointAt();
+        pointAtRounds();
         Check.finish();
     }
 
@@ -48,6 +54,33 @@ public final class PathsTest {
         Drawn.refused("a fifth moveTo", STATE, o, () -> o.moveTo(0, 0));
         Drawn.refused("a fifth moveTo(0, 101)", ARGUMENT, o, () -> o.moveTo(0, 101));
         Check.equal("moved", Drawn.text(o), "M-100,100M100,-100M1,2M1,2");
+    }
+
+    /** A subpath in the place of a closed one, or of a longer one, is open and has one point. */
+    private static void freshSubpath() {
+        StrokeOutliner o = Drawn.path("M1,1M2,2L3,3Z");
+        o.remove(1);
+        Check.equal("moveTo behind a removal", o.moveTo(4, 4), 1);
+        Check.equal("the new subpath", Drawn.text(o), "M1,1M4,4");
+        o.lineTo(5, 5);
+        o.close();
+        o.undo();
+        o.undo();
+        o.undo();
+        Check.equal("moveTo behind an undo", o.moveTo(6, 6), 1);
+        Check.equal("the new subpath again", Drawn.text(o), "M1,1M6,6");
+    }
+
+    private static void full() {
+        StrokeOutliner o = Drawn.path("M1,1M2,2M3,3M4,4L5,5L6,6L7,7L8,8L9,9L10,10L11,11");
+        Drawn.refused("moveTo where there are 4 subpaths", STATE, o, () -> o.moveTo(0, 0));
+        Drawn.refused("lineTo where there are 8 points", STATE, o, () -> o.lineTo(0, 0));
+        Drawn.undoable("close 8 points", 8, o, o::close);
+        o.undo();
+        o.simplify(3);
+        Check.equal("lineTo where there are 2 points again", o.lineTo(0, 0), 3);
+        o.remove(0);
+        Check.equal("moveTo where there are 3 subpaths again", o.moveTo(0, 0), 3);
     }
 
     private static void lineTo() {
@@ -166,6 +199,23 @@ public final class PathsTest {
         simplified("M1,1L1,1L1,1L1,1Z", 3, "M1,1Z");
     }
 
+    private static void simplifyAll() {
+        simplified("M3,3L3,3L3,3L3,3L3,3L3,3L3,3L3,3", 7, "M3,3");
+        simplified("M3,3L3,3L3,3L3,3L3,3L3,3L3,3L3,3Z", 7, "M3,3Z");
+        simplified("M0,0L1,2L2,4L3,6L4,8L5,10L6,12L7,14", 6, "M0,0L7,14");
+        simplified("M0,0L1,2L2,4L3,6L4,8L5,10L6,12L7,14Z", 6, "M0,0L7,14Z");
+        // the last point equals the one before it, in the open subpath the first one has no point before it
+        simplified("M4,4L9,9L9,9", 1, "M4,4L9,9");
+        simplified("M4,4L9,1L4,4", 0, "M4,4L9,1L4,4");
+        simplified("M4,4L9,1L4,4Z", 1, "M9,1L4,4Z");
+        // on the line through them, but not between them
+        simplified("M0,0L-1,0L5,0", 0, "M0,0L-1,0L5,0");
+        simplified("M0,0L0,6L0,5", 0, "M0,0L0,6L0,5");
+        // hardly beside the line
+        simplified("M-100,-100L0,1L100,100", 0, "M-100,-100L0,1L100,100");
+        simplified("M-100,-100L0,0L100,100", 1, "M-100,-100L100,100");
+    }
+
     private static void transform() {
         StrokeOutliner o = Drawn.path("M10,20L-30,40ZM1,-2");
         Drawn.refused("transform(4, 0, 0)", ARGUMENT, o, () -> o.transform(4, 0, 0));
@@ -217,6 +267,20 @@ public final class PathsTest {
         Check.equal("length behind a removal", o.subpath(0, 3), 0);
     }
 
+    /** Root: the greatest number whose square is at most the other. */
+    private static void lengths() {
+        Check.equal("a square", Drawn.path("M0,0L3,4").subpath(0, 3), 320);
+        // 4096 * 2 is between 90 * 90 and 91 * 91
+        Check.equal("between two squares", Drawn.path("M0,0L1,1").subpath(0, 3), 90);
+        // 4096 * 1088 is 2112 * 2112 - 4096, and 2111 * 2111 + 127
+        Check.equal("below a square", Drawn.path("M0,0L8,32").subpath(0, 3), 2111);
+        Check.equal("the shortest segment", Drawn.path("M0,0L0,-1").subpath(0, 3), 64);
+        Check.equal("the longest segment", Drawn.path("M-100,100L100,-100").subpath(0, 3), 18101);
+        Check.equal("the sum of roots", Drawn.path("M0,0L1,1L2,2").subpath(0, 3), 180);
+        Check.equal("the longest subpath", Drawn.path(LONGEST).subpath(0, 3), 8 * 18101);
+        Check.equal("all of its segments", Drawn.path(LONGEST).subpath(0, 2), 8);
+    }
+
     private static void point() {
         StrokeOutliner o = Drawn.path("M1,-2L3,4M-100,100Z");
         Check.equal("point(0, 0, x)", o.point(0, 0, false), 1);
@@ -259,5 +323,34 @@ public final class PathsTest {
         Check.argument("pointAt without segments", () -> o.pointAt(2, 1, true));
         Check.index("pointAt(4, 0)", () -> o.pointAt(4, 0, true));
         Check.index("pointAt(-1, -1)", () -> o.pointAt(-1, -1, true));
+        StrokeOutliner longest = Drawn.path(LONGEST);
+        at(longest, 0, 18101, 6400, 6400);
+        at(longest, 0, 7 * 18101, 6400, 6400);
+        at(longest, 0, 8 * 18101, -6400, -6400);
+        Check.argument("pointAt beyond the longest", () -> longest.pointAt(0, 8 * 18101 + 1, false));
+        StrokeOutliner equal = Drawn.path("M7,-7L7,-7Z");
+        at(equal, 0, 0, 448, -448);
+        Check.argument("pointAt beyond equal points", () -> equal.pointAt(0, 1, false));
+    }
+
+    /** All the lengths are 143: 62 * 128 / 143 is 55.4965, 81 * 128 / 143 is 72.5035, and for 64 27.7 and 36.3. */
+    private static void pointAtRounds() {
+        StrokeOutliner o = Drawn.path("M0,0L2,1M0,0L-2,1M0,0L-2,-1M0,0L2,-1");
+        at(o, 0, 62, 55, 28);
+        at(o, 0, 81, 73, 36);
+        at(o, 1, 62, -55, 28);
+        at(o, 1, 81, -73, 36);
+        at(o, 2, 62, -55, -28);
+        at(o, 2, 81, -73, -36);
+        at(o, 3, 62, 55, -28);
+        at(o, 3, 81, 73, -36);
+        // 19 * 64 / 143 is 8.5035, hardly beyond a half
+        StrokeOutliner steep = Drawn.path("M0,0L1,2M0,0L-1,2");
+        at(steep, 0, 19, 9, 17);
+        at(steep, 1, 19, -9, 17);
+        // 64 * 99 * 70 / 8960 is 49.5: the greater one of two
+        StrokeOutliner half = Drawn.path("M0,0L99,99M0,0L-99,-99");
+        at(half, 0, 70, 50, 50);
+        at(half, 1, 70, -49, -49);
     }
 }

@@ -5,10 +5,14 @@ public final class PiecesTest {
         rounding();
         miters();
         miterLimit();
+        miterLimitExactly();
+        miterLimitOne();
         noJoin();
+        whereRunsEnd();
         bevelsAndDiscs();
         caps();
         dots();
+        dottedDots();
         order();
         rings();
         dashedPieces();
@@ -79,6 +83,71 @@ public final class PiecesTest {
         limit("M0,0L10,0L8,1", 5, 1);
     }
 
+    /** A root cut to a whole number would make bevels of these miters, the next number up miters of these bevels. */
+    private static void miterLimitExactly() {
+        limit("M0,0L6,1L3,-7", 2, 2);
+        limit("M0,0L1,2L3,-7", 3, 1);
+        limit("M0,0L1,0L-4,-4", 3, 2);
+        limit("M0,0L19,3L8,7", 4, 1);
+        limit("M0,0L24,1L22,2", 4, 2);
+        limit("M0,0L20,3L7,-5", 5, 1);
+        limit("M0,0L7,2L-1,3", 5, 2);
+        limit("M0,0L23,1L13,4", 6, 1);
+        limit("M0,0L1,0L-2,-1", 6, 2);
+        limit("M0,0L2,3L-4,-2", 7, 1);
+        limit("M0,0L24,1L20,2", 7, 2);
+        limit("M0,0L7,3L-6,-7", 8, 1);
+        limit("M0,0L35,3L29,4", 8, 2);
+        limit("M0,0L18,1L11,-1", 9, 1);
+        limit("M0,0L1,2L-8,-9", 9, 2);
+        limit("M0,0L4,3L-4,-6", 10, 1);
+        limit("M0,0L1,0L-4,-1", 10, 2);
+        // the longest segments: the cosines are -0.9798 and -0.9808
+        limit("M-100,0L100,0L-96,40", 10, 1);
+        limit("M-100,0L100,0L-96,39", 10, 2);
+    }
+
+    /** With the limit 1 only segments that go straight on are within it, and these have no join. */
+    private static void miterLimitOne() {
+        limit("M0,0L1,0L1,5", 1, 2);
+        limit("M0,0L1,0L0,2", 1, 2);
+        limit("M0,0L1,0L0,-2", 1, 2);
+        limit("M0,0L1,0L3,1", 1, 2);
+        limit("M-100,0L0,0L100,1", 1, 2);
+        limit("M-100,0L0,0L100,-1", 1, 2);
+        limit("M-100,0L0,0L100,1", 2, 1);
+        Check.equal("straight on", Drawn.kinds(styled("M-100,0L0,0L100,0", 4, 0, 1, 0)), "00");
+    }
+
+    /** A run that ends, or begins, exactly at a corner has no join there. */
+    private static void whereRunsEnd() {
+        for (int join = 0; join < 3; join++) {
+            StrokeOutliner ends = Drawn.dashed("M0,0L10,0L10,10", 0, false, 10, 5);
+            ends.setStyle(4, join, 4, 0);
+            Check.equal("it ends at a corner, join " + join, Drawn.kinds(ends), "00");
+            StrokeOutliner begins = Drawn.dashed("M0,0L10,0L10,10", 10, false, 10, 10);
+            begins.setStyle(4, join, 4, 2);
+            Check.equal("it begins at a corner, join " + join, Drawn.kinds(begins), "044");
+            StrokeOutliner open = styled("M0,0L10,0L10,10L0,0", 4, join, 10, 0);
+            Check.equal("an open subpath has none where it ends, join " + join, open.pieces(-1), 5);
+            open.close();
+            Check.equal("a closed one has one, join " + join, open.pieces(-1), 6);
+        }
+        Check.equal("over equal points", Drawn.kinds(styled("M0,0L10,0L10,0L10,0L10,10L10,10", 4, 0, 4, 2)), "01044");
+        StrokeOutliner cut = Drawn.dashed("M0,0L10,0L10,10L0,10Z", 0, false, 39, 5);
+        cut.setStyle(2, 0, 4, 2);
+        Check.equal("a ring that is not whole has caps, and no join where it begins", Drawn.kinds(cut), "010101044");
+        // the second run is the whole second segment, the third one goes round the corner behind it
+        StrokeOutliner first = Drawn.dashed("M0,0L10,0L10,10L0,10Z", 5, false, 10, 5);
+        first.setStyle(2, 0, 4, 0);
+        Check.equal("on at the beginning only", Drawn.kinds(first), "0" + "0" + "010");
+        // from 3 before the end to 33 before the next: both ends lie on the first segment, which has no join with itself
+        StrokeOutliner around = Drawn.dashed("M0,0L10,0L10,10L0,10Z", 35, false, 37, 5);
+        around.setStyle(2, 1, 4, 0);
+        Check.equal("round the whole ring but for a gap", Drawn.runs(around, 0), "448+2240/5");
+        Check.equal("a strip at either side of the gap", Drawn.kinds(around), "030303030");
+    }
+
     private static void noJoin() {
         for (int join = 0; join < 3; join++) {
             Check.equal("straight on, join " + join, Drawn.kinds(styled("M0,0L10,5L30,15", 4, join, 4, 0)), "00");
@@ -122,6 +191,20 @@ public final class PiecesTest {
         StrokeOutliner dashed = Drawn.dashed("M0,0", 10, false, 10, 100);
         dashed.setStyle(2, 0, 4, 2);
         pieces("a dot where dashing is off", dashed, "4:-64,-64 64,-64 64,64 -64,64");
+    }
+
+    /** Whatever the dash pattern is, and wherever it is when it comes to the dot. */
+    private static void dottedDots() {
+        for (int phase : new int[] {0, 10, 15, 599, 600}) {
+            for (int cap = 0; cap < 3; cap++) {
+                StrokeOutliner o = Drawn.dashed("M0,0L7,0M9,9M3,3L3,3ZM0,0L7,0", phase, true, 10, 100);
+                o.setStyle(2, 0, 4, cap);
+                int dots = o.pieces(-1);
+                o.remove(2);
+                o.remove(1);
+                Check.equal("two dots, cap " + cap, dots - o.pieces(-1), cap == 0 ? 0 : 2);
+            }
+        }
     }
 
     private static void order() {

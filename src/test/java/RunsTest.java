@@ -4,10 +4,15 @@ public final class RunsTest {
         withoutPattern();
         openSubpath();
         oddPattern();
+        eachNumberOfLengths();
         boundaries();
+        oneUnit();
         ringOfRuns();
         wholeRing();
+        noLongerClosed();
         continuing();
+        continuingAtBoundaries();
+        mostRuns();
         dashed();
         exceptions();
         Check.finish();
@@ -52,6 +57,34 @@ public final class RunsTest {
         runs("M0,0L60,0", 10, "640+1280/1 2560+640/1", 10, 10, 20, 10, 10);
     }
 
+    private static void eachNumberOfLengths() {
+        runs("M0,0L50,0", 0, "0+3200/1");
+        runs("M0,0L50,0", 0, "0+1280/1 2560+640/1", 20);
+        runs("M0,0L50,0", 0, "0+1280/1 1664+1280/1", 20, 6);
+        runs("M0,0L50,0", 0, "0+1280/1 1664+448/1", 20, 6, 7);
+        runs("M0,0L50,0", 0, "0+320/1 704+448/1 1664+320/1 2368+448/1", 5, 6, 7, 8);
+        runs("M0,0L75,0", 0, "0+320/1 704+448/1 1664+576/1 2560+384/1 3392+512/1 4480+320/1", 5, 6, 7, 8, 9);
+        runs("M0,0L50,0", 0, "0+320/1 704+448/1 1664+576/1 2880+320/1", 5, 6, 7, 8, 9, 10);
+        // the longest pattern is 600 long: the greatest phase is its beginning again
+        runs("M0,0L90,0", 600, "0+5760/1", 100, 100, 100, 100, 100, 100);
+        runs("M0,0L90,0", 599, "64+5696/1", 100, 100, 100, 100, 100, 100);
+        runs("M0,0L90,0", 600, "0+5760/1", 100, 100, 100, 100, 100);
+        runs("M0,0L90,0", 500, "", 100, 100, 100, 100, 100);
+        runs("M0,0L90,0", 499, "0+64/1", 100, 100, 100, 100, 100);
+    }
+
+    /** The first segment is 2111 units long, one less than 33 * 64. */
+    private static void oneUnit() {
+        runs("M0,0L8,32L8,42", 0, "0+2112/2 2432+319/1", 33, 5);
+        runs("M0,0L8,32L8,42", 5, "2112+320/1", 5, 33);
+        runs("M0,0L8,32L8,42L8,32", 33, "320+2112/2", 33, 5, 33, 33, 5, 33);
+        StrokeOutliner o = Drawn.dashed("M0,0L8,32L8,42", 0, false, 33, 5);
+        Check.equal("the strip of one unit", Drawn.piece(o, 2), "0:384,2048 384,2049 640,2049 640,2048");
+        // on to the last unit but one, and from the last one on
+        runs("M0,0L8,32", 0, "0+2048/1", 32, 5);
+        runs("M0,0L1,16", 0, "0+704/1 1024+1/1", 11, 5);
+    }
+
     private static void boundaries() {
         // the pattern changes where a segment ends: no piece without a length
         runs("M0,0L10,0L10,5L10,15", 0, "0+640/1 960+640/1", 10, 5);
@@ -87,6 +120,60 @@ public final class RunsTest {
         runs("M0,0L10,0L10,10L0,10Z", 61, "0+2496/4", 100, 5);
         runs("M0,0L10,0L10,10L0,10", 0, "0+1920/3", 100, 5);
         runs("M0,0L10,0L10,10L0,10Z", 39, "", 39, 60);
+    }
+
+    /** What a run was before must not stay. */
+    private static void noLongerClosed() {
+        StrokeOutliner o = Drawn.path("M0,0L10,0L10,10");
+        Check.equal("open", Drawn.runs(o, 0), "0+1280/2");
+        o.close();
+        Check.equal("closed", Drawn.runs(o, 0), "0+2185/3c");
+        o.undo();
+        Check.equal("open again", Drawn.runs(o, 0), "0+1280/2");
+        o.close();
+        o.addDash(20);
+        Check.equal("dashed", Drawn.runs(o, 0), "0+1280/2");
+        o.undo();
+        Check.equal("closed again", Drawn.runs(o, 0), "0+2185/3c");
+        o.remove(0);
+        o.moveTo(0, 0);
+        o.lineTo(3, 4);
+        Check.equal("another one in its place", Drawn.runs(o, 0), "0+320/1");
+    }
+
+    private static void continuingAtBoundaries() {
+        StrokeOutliner off = Drawn.dashed("M0,0L15,0M0,0L10,0", 0, true, 10, 5);
+        Check.equal("begins where the off length has ended", Drawn.runs(off, 1), "0+640/1");
+        StrokeOutliner before = Drawn.dashed("M0,0L14,0M0,0L10,0", 0, true, 10, 5);
+        Check.equal("begins one before the end of the off length", Drawn.runs(before, 1), "64+576/1");
+        StrokeOutliner behind = Drawn.dashed("M0,0L16,0M0,0L10,0", 0, true, 10, 5);
+        Check.equal("begins one behind the end of the off length", Drawn.runs(behind, 1), "0+576/1");
+        before.remove(0);
+        Check.equal("the first one begins with the phase", Drawn.runs(before, 0), "0+640/1");
+        StrokeOutliner dot = Drawn.dashed("M3,3M0,0L10,0", 12, true, 10, 5);
+        Check.equal("behind a dot it begins with the phase", Drawn.runs(dot, 1), "192+448/1");
+        // 7 units of the on length are left for the ring, which is on again from 12 to 22 and from 27 on
+        StrokeOutliner ring = Drawn.dashed("M0,0L3,0M0,0L10,0L10,5L0,5Z", 0, true, 10, 5);
+        Check.equal("a ring is joined", Drawn.runs(ring, 1), "1728+640/2 768+640/2");
+        StrokeOutliner whole = Drawn.dashed("M0,0L60,0M0,0L10,0L10,10L0,10Z", 0, true, 100, 5);
+        Check.equal("the on length ends with the ring", Drawn.runs(whole, 1), "0+2560/4c");
+        StrokeOutliner cut = Drawn.dashed("M0,0L61,0M0,0L10,0L10,10L0,10Z", 0, true, 100, 5);
+        Check.equal("the on length ends before the ring's end", Drawn.runs(cut, 1), "0+2496/4");
+        StrokeOutliner none = Drawn.dashed("M0,0L60,0M0,0L10,0L10,10L0,10Z", 600, true);
+        Check.equal("no pattern, and it continues", Drawn.runs(none, 1), "0+2560/4c");
+    }
+
+    /** 8 * 18101 units, and 320 on, 320 off: more runs there cannot be. */
+    private static void mostRuns() {
+        String longest = "M-100,-100" + "L100,100L-100,-100".repeat(3) + "L100,100Z";
+        StrokeOutliner o = Drawn.dashed(longest, 0, false, 5);
+        Check.equal("on at both ends", o.runs(0), 226);
+        Check.equal("the joined one begins", o.run(0, 0, 0), 226 * 640);
+        Check.equal("the joined one is as long", o.run(0, 0, 1), 8 * 18101 - 226 * 640 + 320);
+        o.setDashes(3, false);
+        o.addDash(5);
+        Check.equal("on at the beginning only", o.runs(0), 227);
+        Check.equal("the last one", o.run(0, 226, 0) + o.run(0, 226, 1), 448 + 225 * 640 + 320);
     }
 
     private static void continuing() {

@@ -5,6 +5,9 @@ public final class StateTest {
         undoStyle();
         undoText();
         undoAfterFailures();
+        undoOfNoChange();
+        notUndoable();
+        fourOfEach();
         newDigest();
         digests();
         Check.finish();
@@ -70,6 +73,91 @@ public final class StateTest {
         Check.argument("setDashes", () -> o.setDashes(601, true));
         Check.argument("addDash", () -> o.addDash(1));
         Check.equal("only the moveTo is saved", o.undo(), 0);
+    }
+
+    /** A call that changes nothing saves a state all the same. */
+    private static void undoOfNoChange() {
+        saves("reverse", o -> o.reverse(0));
+        saves("simplify", o -> o.simplify(0));
+        saves("transform", o -> o.transform(0, 0, 0));
+        saves("setStyle", o -> o.setStyle(4, 0, 4, 0));
+        saves("setDashes", o -> o.setDashes(0, false));
+        saves("parse", StrokeOutliner::parse);
+    }
+
+    private interface Change {
+        long answer(StrokeOutliner o);
+    }
+
+    private static StrokeOutliner dot() {
+        StrokeOutliner o = new StrokeOutliner();
+        Drawn.write(o, "M5,5");
+        o.moveTo(5, 5);
+        return o;
+    }
+
+    private static void saves(String call, Change change) {
+        StrokeOutliner o = dot();
+        long before = o.digest();
+        change.answer(o);
+        Check.equal(call + " changes nothing but the saved states", o.digest(), before + 1);
+        Check.equal(call + " can be undone", o.undo(), 1);
+        Check.equal(call + ", undone", o.digest(), before);
+        Check.equal("the moveTo can be undone", o.undo(), 0);
+        Check.equal("the moveTo, undone", o.subpaths(), 0);
+    }
+
+    /** These save no state: the one that the undo restores is that from before the lineTo. */
+    private static void notUndoable() {
+        StrokeOutliner o = dot();
+        o.lineTo(9, 9);
+        o.append('X');
+        o.parse();
+        o.clearText();
+        o.subpaths();
+        o.subpath(0, 3);
+        o.point(0, 1, true);
+        o.pointAt(0, 9, true);
+        o.runs(0);
+        o.run(0, 0, 1);
+        o.dashed(true);
+        o.pieces(0);
+        o.piece(0, 2);
+        o.corner(0, 3, false);
+        o.bounds(3);
+        o.covering(0, 0);
+        o.covered(0, 0, 20, 20);
+        o.nearest(0, 0);
+        o.written(3);
+        o.digest();
+        Check.equal("only the lineTo is undone", o.undo(), 1);
+        Check.equal("it has left one point", o.subpath(0, 0), 1);
+        Check.equal("an undo saves nothing", o.undo(), 0);
+        Check.state("no more is saved", o::undo);
+        Check.equal("the text is the one that was left", o.clearText(), 0);
+    }
+
+    /** The fifth state drops the oldest one, whichever calls have saved them. */
+    private static void fourOfEach() {
+        StrokeOutliner o = Drawn.path("M0,0L3,0L6,0");
+        o.setStyle(5, 1, 5, 1);
+        o.setDashes(6, true);
+        o.addDash(7);
+        o.simplify(0);
+        o.close();
+        o.remove(0);
+        Check.equal("four are saved", o.undo(), 3);
+        Check.equal("the path from before the remove", Drawn.text(o), "M0,0L6,0Z");
+        Check.equal("the next one", o.undo(), 2);
+        Check.equal("the path from before the close", Drawn.text(o), "M0,0L6,0");
+        Check.equal("one more", o.undo(), 1);
+        Check.equal("the path from before the simplify", Drawn.text(o), "M0,0L3,0L6,0");
+        Check.equal("the dashes are still there", Drawn.runs(o, 0), "0+64/1");
+        Check.equal("the last one", o.undo(), 0);
+        Check.equal("no dashes", Drawn.runs(o, 0), "0+384/2");
+        Check.equal("the style is older", o.setStyle(1, 0, 1, 0), 5);
+        Check.equal("a new one is saved", o.undo(), 0);
+        Check.state("the dropped ones are gone", o::undo);
     }
 
     private static long hash(long... values) {

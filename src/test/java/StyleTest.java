@@ -4,11 +4,32 @@ public final class StyleTest {
     private static final String STATE = "IllegalStateException";
 
     public static void main(String[] args) {
+        initialStyle();
         setStyle();
         styleCounts();
         setDashes();
         addDash();
         Check.finish();
+    }
+
+    /** What "initially" says, each of it. */
+    private static void initialStyle() {
+        StrokeOutliner o = new StrokeOutliner();
+        Check.equal("initially no dashes", o.addDash(20), 1);
+        o.moveTo(0, 0);
+        o.lineTo(30, 0);
+        o.moveTo(0, 0);
+        o.lineTo(30, 0);
+        Check.equal("initially the phase is 0", Drawn.runs(o, 0), "0+1280/1");
+        Check.equal("initially dashing does not continue", Drawn.runs(o, 1), "0+1280/1");
+        StrokeOutliner plain = new StrokeOutliner();
+        plain.moveTo(0, 0);
+        plain.lineTo(10, 0);
+        plain.lineTo(10, 10);
+        plain.lineTo(2, 11);
+        plain.lineTo(10, 11);
+        Check.equal("initially butt caps, miters up to 4", Drawn.kinds(plain), "0101020");
+        Check.equal("initially 4 wide", plain.bounds(2), -128);
     }
 
     private static void setStyle() {

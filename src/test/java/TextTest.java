@@ -4,6 +4,8 @@ public final class TextTest {
         append();
         clearText();
         parsed();
+        parsedAgain();
+        longest();
         faults();
         faultsOfNumbers();
         tooMany();
@@ -52,6 +54,41 @@ public final class TextTest {
         parsed("M0,0L1,0L2,0L3,0L4,0L5,0L6,0L7,0Z", 1, "M0,0L1,0L2,0L3,0L4,0L5,0L6,0L7,0Z");
     }
 
+    /** Nothing is left of the text that was read before. */
+    private static void parsedAgain() {
+        StrokeOutliner o = Drawn.path("M1,1L2,2ZM3,3L4,4Z");
+        Drawn.write(o, "M5,5M6,6L7,7L8,8");
+        Check.equal("open subpaths in place of closed ones", o.parse(), 2);
+        Check.equal("they are open", Drawn.text(o), "M5,5M6,6L7,7L8,8");
+        Drawn.write(o, "M9,9L8,8ZM7,7L6,6Z!");
+        Check.equal("a text with a fault", o.parse(), -28);
+        Drawn.write(o, "M1,2");
+        Check.equal("a path in place of it", o.parse(), 1);
+        Check.equal("it is open", Drawn.text(o), "M1,2");
+        Check.equal("the same path again", o.parse(), 1);
+        Check.equal("is saved, too", o.undo(), 3);
+        StrokeOutliner full = Drawn.path("M0,0M0,0M0,0M0,0");
+        Drawn.write(full, "M1,1ZM2,2ZM3,3ZM4,4Z");
+        Check.equal("a full path in place of a full one", full.parse(), 4);
+        Check.equal("it is the new one", Drawn.text(full), "M1,1ZM2,2ZM3,3ZM4,4Z");
+        Drawn.write(full, "");
+        Check.equal("an empty path in place of a full one", full.parse(), 0);
+        Check.equal("it is empty", full.subpaths(), 0);
+    }
+
+    /** Texts of 150 bytes: a path, one that ends too early, and one with its fault in the last byte. */
+    private static void longest() {
+        String most = "M-100,-100" + "L-100,-100".repeat(7) + "ZM-100,-100" + "L-100,-100".repeat(5);
+        Check.equal("141 bytes", most.length(), 141);
+        parsed(most + "L-10,-10Z", 2, most + "L-10,-10Z");
+        parsed(most + "L-100,100", 2, most + "L-100,100");
+        parsed(most + "L-100,-99", 2, most + "L-100,-99");
+        String[] ends = {"L-100,10M", "L-100,10L", "L-100,10!X", "L-100,10!,", "L-10,101!1", "L-100,!101", "L-10,!-101"};
+        for (String end : ends) {
+            fault(most + end);
+        }
+    }
+
     /** The position is that of the "!", or the length of the text if there is none. */
     private static void fault(String marked) {
         String text = marked.replace("!", "");
@@ -68,7 +105,9 @@ public final class TextTest {
         String[] marked = {"M", "M1", "M1,", "M1,2L", "M1,2L3", "M1,2L3,", "M-", "M1,-", "!L1,1", "!Z", "! ", "!m1,1",
             "!1,2", "M!,1", "M!Z", "M! 1,2", "M1! ,2", "M1,! 2", "M1,2! L3,4", "M1!;2", "M1,2Z!Z", "M1,2Z!L3,4",
             "M1,2Z! ", "M1,2!,3", "M1,2L!L3,4", "M1,2M!M", "M1,2!-3", "M!+1,2", "M1!.5,2", "M-!-1,2", "M-!,1", "M1!-,2",
-            "M1,!", "M1,2!X", "M1,2L3,4!z", "M1,2M", "M1,2Z!1"};
+            "M1,!", "M1,2!X", "M1,2L3,4!z", "M1,2M", "M1,2Z!1", "M1,2!/", "M1,2!:", "M1!/,2", "M1!:,2", "M!/", "M!:",
+            "!\0", "!\177", "M1,2!\0", "M1,2!\177", "M1,2Z!\0", "M!\0", "M1!\0", "M1,!\177", "!N1,2", "M1,2!K3,4",
+            "M1,2!Y", "M1,2![", "M1!+,2", "M1,2L3,4L!L", "M1,2L3,4ZM5,6!l7,8", "M-1!-", "M-!-", "M1,-!-"};
         for (String text : marked) {
             fault(text);
         }

@@ -25,7 +25,7 @@ public final class ArgumentsTest {
         Check.finish();
     }
 
-    /** Each call is taken on it: an open subpath of three points is the last one, nothing is full, each join is used. */
+    /** Each call is taken on it: an open subpath of three points is the last one, and nothing is full. */
     private static StrokeOutliner sample() {
         StrokeOutliner o = Drawn.dashed("M0,0L30,0L30,30M5,5ZM-1,-2L-11,-2L-11,8", 0, false, 20, 5);
         o.setStyle(4, 2, 4, 1);

@@ -141,7 +141,7 @@ public final class PiecesTest {
         StrokeOutliner first = Drawn.dashed("M0,0L10,0L10,10L0,10Z", 5, false, 10, 5);
         first.setStyle(2, 0, 4, 0);
         Check.equal("on at the beginning only", Drawn.kinds(first), "0" + "0" + "010");
-        // from 3 before the end to 33 before the next: both ends lie on the first segment, which has no join with itself
+        // off from 2 to 7 only: the run begins and ends on the first segment, which has no join with itself
         StrokeOutliner around = Drawn.dashed("M0,0L10,0L10,10L0,10Z", 35, false, 37, 5);
         around.setStyle(2, 1, 4, 0);
         Check.equal("round the whole ring but for a gap", Drawn.runs(around, 0), "448+2240/5");

@@ -83,7 +83,8 @@ public final class TextTest {
         parsed(most + "L-10,-10Z", 2, most + "L-10,-10Z");
         parsed(most + "L-100,100", 2, most + "L-100,100");
         parsed(most + "L-100,-99", 2, most + "L-100,-99");
-        String[] ends = {"L-100,10M", "L-100,10L", "L-100,10!X", "L-100,10!,", "L-10,101!1", "L-100,!101", "L-10,!-101"};
+        String[] ends = {"L-100,10M", "L-100,10L", "L-100,10!X", "L-100,10!,", "L-10,101!1", "L-100,!101",
+            "L-10,!-101"};
         for (String end : ends) {
             fault(most + end);
         }

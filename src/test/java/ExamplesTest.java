@@ -1,12 +1,40 @@
-/** The five examples of the document. */
+import java.nio.file.Files;
+import java.nio.file.Path;
+import java.util.regex.Matcher;
+import java.util.regex.Pattern;
+
+/** The five examples of the document: copied here, and once more as they stand in the document itself. */
 public final class ExamplesTest {
-    public static void main(String[] args) {
+    public static void main(String[] args) throws Exception {
+        asWritten(Files.readString(Path.of("../shared/DOC.md")));
         segmentsWithMiter();
         dashPattern();
         dashPatternWithPhase();
         onePoint();
         errors();
         Check.finish();
+    }
+
+    /** An example is "1. Its title: call = answer; call = throws SomeException." */
+    private static void asWritten(String document) throws Exception {
+        int from = document.indexOf("\nExamples: ");
+        int to = document.indexOf("\nThe constants:");
+        String text = document.substring(from, to).replaceAll("\\s+", " ");
+        Matcher example = Pattern.compile(" (\\d)\\. [^:]*: ([^.]*)\\.").matcher(text);
+        int examples = 0;
+        int calls = 0;
+        while (example.find()) {
+            examples++;
+            StrokeOutliner o = new StrokeOutliner();
+            for (String row : example.group(2).split("; ")) {
+                String[] sides = row.split(" = ");
+                String due = sides[1].replace("throws ", "");
+                Check.equal("example " + example.group(1) + ": " + sides[0], WrittenCall.outcome(o, sides[0]), due);
+                calls++;
+            }
+        }
+        Check.equal("the examples of the document", examples, 5);
+        Check.equal("their calls", calls, 39);
     }
 
     private static void segmentsWithMiter() {

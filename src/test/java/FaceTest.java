@@ -24,7 +24,9 @@ public final class FaceTest {
             staticFields(each);
         }
         staticFields(StrokeOutliner.class);
-        source(Files.readString(Path.of("src/main/java/StrokeOutliner.java")));
+        String text = Files.readString(Path.of("src/main/java/StrokeOutliner.java"));
+        declarations(text, Files.readString(Path.of("../shared/DOC.md")));
+        source(text);
         Check.finish();
     }
 
@@ -54,6 +56,21 @@ public final class FaceTest {
             boolean open = !Modifier.isPrivate(field.getModifiers()) && !field.getName().equals("NONE");
             Check.equal("the field " + field.getName() + " is open", open ? 1 : 0, 0);
         }
+    }
+
+    /** Each line of the document's face stands in the class, with the names of the parameters and the exceptions. */
+    private static void declarations(String text, String document) {
+        String written = text.replaceAll("\\s+", " ");
+        String block = document.substring(document.indexOf("```java") + 7, document.indexOf("}\n```"));
+        int declared = 0;
+        for (String line : block.split("\n")) {
+            if (!line.isBlank()) {
+                String wanted = line.trim().replaceAll("\\);$", ") {").replaceAll("Exception;$", "Exception {");
+                Check.equal("the class has " + wanted, written.contains(" " + wanted + " ") ? 1 : 0, 1);
+                declared++;
+            }
+        }
+        Check.equal("the class, a constant, a constructor and the methods", declared, 33);
     }
 
     private static void classesInside() {
